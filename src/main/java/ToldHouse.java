@@ -295,10 +295,10 @@ public final class ToldHouse {
     }
 
     public int in(int sender, int number, int stream, int amount, int key, int so) {
-        if (!isWithin(sender, 0, SENDERS - 1) || number < 0) {
+        Sender from = senderAt(sender);
+        if (from == null || number < 0) {
             return NOT_AS_TOLD;
         }
-        Sender from = senders[sender];
         if (from.isOld(number)) {
             return OLD_LETTER;
         }
@@ -315,7 +315,8 @@ public final class ToldHouse {
     }
 
     public int latest(int sender) {
-        return isWithin(sender, 0, SENDERS - 1) ? senders[sender].greatest : NONE;
+        Sender asked = senderAt(sender);
+        return asked == null ? NONE : asked.greatest;
     }
 
     public int check(int h, int field, int mask) {
@@ -337,7 +338,7 @@ public final class ToldHouse {
     }
 
     private static boolean isDay(int d) {
-        return isWithin(d, 0, LAST_DAY);
+        return 0 <= d && d <= LAST_DAY;
     }
 
     private static boolean areDays(int t, int k) {
@@ -368,6 +369,10 @@ public final class ToldHouse {
         return isWithin(doing, 0, doingCount - 1) ? doings[doing] : null;
     }
 
+    private Sender senderAt(int sender) {
+        return isWithin(sender, 0, SENDERS - 1) ? senders[sender] : null;
+    }
+
     private static int changeOf(Leg leg) {
         return leg == null || leg.change == null ? NONE : leg.change.index;
     }
@@ -383,7 +388,10 @@ public final class ToldHouse {
 
     private void settleFirst(int happenings) {
         for (int s = 0; s < STREAMS; s++) {
-            judge.settle(streams[s], streams[s].amongFirst(happenings));
+            Row row = rowOf(s);
+            if (row != null) {
+                judge.settle(row, row.amongFirst(happenings));
+            }
         }
     }
 
@@ -671,6 +679,7 @@ public final class ToldHouse {
         private int endedSo;
         private int firstSo;
         private int lastSo;
+        private long sum;
 
         void settle(Row row, int first) {
             for (int i = 0; i < first; i++) {
@@ -703,33 +712,37 @@ public final class ToldHouse {
         int verdict(Row row, int first) {
             settle(row, first);
             tally(row, first);
+            boolean isBelowOnce = days.isBelowOnceAsEmptied();
             if (made > 1 || valid > 0 && made == 0) {
                 return WRONG_BY_A;
-            }
-            if (valid == 0) {
-                return RIGHT;
             }
             if (firstSo < madeSo || ended > 1 || ended == 1 && lastSo > endedSo) {
                 return WRONG_BY_B;
             }
-            return areAmountsRight(row, first) ? RIGHT : WRONG_BY_C;
+            return isBelowOnce || ended == 1 && sum != 0L ? WRONG_BY_C : RIGHT;
         }
 
         private void tally(Row row, int first) {
             valid = 0;
             made = 0;
             ended = 0;
+            madeSo = 0;
+            endedSo = LAST_DAY;
             firstSo = LAST_DAY;
             lastSo = 0;
+            sum = 0L;
             for (int i = 0; i < first; i++) {
                 Happening h = row.nth(i);
                 if (h != null && h.isValid()) {
-                    tallyOne(h.kind, h.soAsMended());
+                    int amount = h.amountAsMended();
+                    sum += amount;
+                    days.put(h.soAsMended(), amount);
+                    tallyKind(h.kind, h.soAsMended());
                 }
             }
         }
 
-        private void tallyOne(int kind, int so) {
+        private void tallyKind(int kind, int so) {
             valid++;
             firstSo = Math.min(firstSo, so);
             lastSo = Math.max(lastSo, so);
@@ -740,20 +753,6 @@ public final class ToldHouse {
                 ended++;
                 endedSo = so;
             }
-        }
-
-        private boolean areAmountsRight(Row row, int first) {
-            long sum = 0L;
-            for (int i = 0; i < first; i++) {
-                Happening h = row.nth(i);
-                if (h != null && h.isValid()) {
-                    int amount = h.amountAsMended();
-                    days.put(h.soAsMended(), amount);
-                    sum += amount;
-                }
-            }
-            boolean isBelowOnce = days.isBelowOnceAsEmptied();
-            return !isBelowOnce && (ended == 0 || sum == 0L);
         }
     }
 
@@ -870,7 +869,7 @@ public final class ToldHouse {
         private int counted = 0;
 
         boolean isOld(int number) {
-            return greatest != NONE && number <= greatest - REMEMBERED;
+            return number <= greatest - REMEMBERED;
         }
 
         boolean hasCounted(int number) {

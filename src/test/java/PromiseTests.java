@@ -767,6 +767,9 @@ public final class PromiseTests {
         due("0 isn't OLD", x.in(0, 0, 0, 1, 1, 10), 16);
         due("32", x.in(0, 32, 0, 1, 1, 10), 17);
         due("0 is OLD now", x.in(0, 0, 0, 1, 1, 10), -10);
+        due("0 first", x.in(3, 0, 0, 1, 1, 10), 18);
+        due("then 31", x.in(3, 31, 0, 1, 1, 10), 19);
+        due("0 has counted", x.in(3, 0, 0, 1, 1, 10), -9);
     }
 
     private static void latest() {

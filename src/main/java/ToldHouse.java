@@ -28,6 +28,8 @@ public final class ToldHouse {
     private static final int BY_DOING = 1;
     private static final int BY_SENDER = 100;
 
+    private static final int WHETHER_VOID = 10;
+    private static final int READ_AMOUNT = 11;
     private static final int FIRST_ALTERABLE = 2;
     private static final int LAST_ALTERABLE = 8;
 
@@ -111,10 +113,10 @@ public final class ToldHouse {
         if (told == null) {
             return NONE;
         }
-        if (what == 10) {
+        if (what == WHETHER_VOID) {
             return isVoidByAll(told) ? 1 : 0;
         }
-        return what == 11 ? told.inHundredths() : told.field(what);
+        return what == READ_AMOUNT ? told.inHundredths() : told.field(what);
     }
 
     public int number(int stream, int n) {

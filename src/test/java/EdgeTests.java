@@ -736,6 +736,19 @@ public final class EdgeTests {
         for (int i = 1; i < 50; i++) {
             due("beyond an int's greatest " + i, y.tell(0, CHANGED, 0, 1000000, 0, i, i), i);
         }
+        for (int day = 1; day <= 999; day++) {
+            rightSumsBy(day);
+        }
+    }
+
+    private static void rightSumsBy(int day) {
+        ToldHouse x = new ToldHouse();
+        due("made", x.tell(0, MADE, 1, 0, 0, 0, 0), 0);
+        due("1 below 0 on day " + day, x.tell(0, CHANGED, 1, -1, 0, day, 1), -8);
+        due("5 more on day " + day, x.tell(0, CHANGED, 1, 5, 0, day, 1), 1);
+        due("1 below 0 on the day ahead of " + day, x.tell(0, CHANGED, 1, -1, 0, day - 1, 2), -8);
+        due("1 too many on day " + day, x.tell(0, CHANGED, 1, -6, 0, day, 2), -8);
+        due("all on day " + day, x.tell(0, CHANGED, 1, -5, 0, day, 2), 2);
     }
 
     private static void rightSumOfAllWhenEnded() {
@@ -2169,6 +2182,18 @@ public final class EdgeTests {
                 due("all bits", x.check(h, field, -1), field == 4 && (h == 1 || h == 2) ? NONE : h);
             }
         }
+        due("KIND 1 to 2", x.check(1, 2, 3), 1);
+        due("FORM 1 to 0", x.check(2, 3, 1), 2);
+        due("FORM 1 to 3", x.check(2, 3, 2), 2);
+        due("key 4 to 12", x.check(1, 5, 8), 1);
+        due("key 3 to 11", x.check(0, 5, 8), 0);
+        due("key 3 to 9", x.check(0, 5, 10), NONE);
+        due("SO 20 to 4", x.check(1, 6, 16), 1);
+        due("SO 20 to 16", x.check(1, 6, 4), NONE);
+        due("KNOWN 8 to 0", x.check(1, 7, 8), NONE);
+        due("KNOWN 8 to 10", x.check(1, 7, 2), 2);
+        due("REF 1 to 0", x.check(2, 8, 1), 2);
+        due("REF 2 to 1", x.check(3, 8, 3), NONE);
         due("amount 10 to 11", x.check(0, 4, 1), NONE);
         due("amount 10 to 8", x.check(0, 4, 2), NONE);
         due("amount 10 to 2", x.check(0, 4, 8), 1);

@@ -739,6 +739,19 @@ public final class EdgeTests {
         for (int day = 1; day <= 999; day++) {
             rightSumsBy(day);
         }
+        for (int first : new int[] {0, 249, 498, 749}) {
+            rightSumsOfDaysInARow(first);
+        }
+    }
+
+    private static void rightSumsOfDaysInARow(int first) {
+        ToldHouse x = new ToldHouse();
+        for (int i = 0; i <= 250; i++) {
+            due("0 on day " + (first + i), x.tell(0, i == 0 ? MADE : CHANGED, 1, 0, 0, first + i, i), i);
+        }
+        for (int i = 0; i <= 250; i++) {
+            due("1 below 0 on day " + (first + i), x.tell(0, CHANGED, 1, -1, 0, first + i, 251), -8);
+        }
     }
 
     private static void rightSumsBy(int day) {
@@ -1474,6 +1487,10 @@ public final class EdgeTests {
         for (int what : new int[] {-1, 12, MIN, MAX}) {
             due("what " + what, x.happening(0, what), NONE);
         }
+        for (int h = 1; h < 400; h++) {
+            due("tell " + h, x.tell(1, CHANGED, 0, 0, 0, 10, h), h);
+            due("behind " + h, x.happening(h + 1, 0), NONE);
+        }
     }
 
     private static void numberOf() {
@@ -1500,7 +1517,13 @@ public final class EdgeTests {
         for (int s : new int[] {-1, 20, MIN, MAX}) {
             due("stream " + s, x.number(s, 0), NONE);
         }
-        due("behind 400", full().number(0, 400), NONE);
+        // A row that is as long as the room that it has is the edge here, wherever that is.
+        ToldHouse y = new ToldHouse();
+        for (int n = 0; n < 400; n++) {
+            due("behind " + n, y.number(0, n), NONE);
+            due("tell " + n, y.tell(0, n == 0 ? MADE : CHANGED, 0, 0, 0, 0, n), n);
+        }
+        due("behind 400", y.number(0, 400), NONE);
     }
 
     private static void countOf() {

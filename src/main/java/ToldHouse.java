@@ -615,7 +615,9 @@ public final class ToldHouse {
         }
 
         void add(Happening h) {
-            makeRoom(size + 1);
+            if (size >= told.length) {
+                makeRoom();
+            }
             told[size] = h;
             size++;
         }
@@ -634,17 +636,18 @@ public final class ToldHouse {
         }
 
         void become(Row other) {
-            makeRoom(other.size);
-            System.arraycopy(other.told, 0, told, 0, other.size);
-            size = other.size;
+            size = 0;
+            for (int i = 0; i < other.size; i++) {
+                add(other.nth(i));
+            }
         }
 
-        private void makeRoom(int places) {
-            if (places > told.length) {
-                Happening[] more = new Happening[Math.max(places, 2 * told.length)];
-                System.arraycopy(told, 0, more, 0, size);
-                told = more;
+        private void makeRoom() {
+            Happening[] more = new Happening[2 * told.length];
+            for (int i = 0; i < told.length; i++) {
+                more[i] = told[i];
             }
+            told = more;
         }
 
         // Days and numbers only rise along a row: so many are the first so many.
